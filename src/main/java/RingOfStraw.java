@@ -144,8 +144,8 @@ public final class RingOfStraw {
         if (!ring.has(m)) {
             return NO_MAN;
         }
-        boolean isSo = what == KNEE ? v < DIGITS : (what == WEIGHT || what == PACE) && v <= MOST_WEIGHT;
-        if (!isSo || v < 0) {
+        int most = what == KNEE ? DIGITS - 1 : MOST_WEIGHT;
+        if (what < WEIGHT || what > KNEE || v < 0 || v > most) {
             return NOT_SO;
         }
         int was = ring.at(m).tells(what);
@@ -170,7 +170,7 @@ public final class RingOfStraw {
         if (!arePlans(planA, planB) || what != 0 && what != 1 && !isCellAsked) {
             return NOT_SO;
         }
-        pairUp(twoMen / DIGITS, twoMen % DIGITS);
+        match.pair(theOne(twoMen), theOther(twoMen), theLaw());
         match.goThrough(planA, planB);
         if (isCellAsked) {
             return match.cellBehind(what - 10);
@@ -198,7 +198,7 @@ public final class RingOfStraw {
         if (!isPlan(planB) || n < 1 || n > 3 || what != 0 && what != 1) {
             return NOT_SO;
         }
-        pairUp(twoMen / DIGITS, twoMen % DIGITS);
+        match.pair(theOne(twoMen), theOther(twoMen), theLaw());
         int least = NONE;
         int fewest = NONE;
         for (int plan = 0; plan < shortPlans(n); plan++) {
@@ -218,7 +218,7 @@ public final class RingOfStraw {
         if (n < 1 || n > 2 || what != 0 && what != 1) {
             return NOT_SO;
         }
-        pairUp(twoMen / DIGITS, twoMen % DIGITS);
+        match.pair(theOne(twoMen), theOther(twoMen), theLaw());
         int surest = 0;
         int most = winsAgainstAll(0, n);
         for (int plan = 1; plan < shortPlans(n); plan++) {
@@ -235,7 +235,7 @@ public final class RingOfStraw {
         if (!isPair(twoMen) || n < 1 || n > 2 || part != 0 && part != 1) {
             return NO;
         }
-        pairUp(twoMen / DIGITS, twoMen % DIGITS);
+        match.pair(theOne(twoMen), theOther(twoMen), theLaw());
         int wins = 0;
         for (int plan = 0; plan < shortPlans(n); plan++) {
             wins += winsAgainstAll(plan, n);
@@ -250,10 +250,10 @@ public final class RingOfStraw {
         if (!arePlans(planA, planB)) {
             return NOT_SO;
         }
-        guess.becomesLike(ring.at(twoMen / DIGITS));
+        guess.becomesLike(theOne(twoMen));
         for (int knee = 0; knee < DIGITS; knee++) {
             guess.knee = knee;
-            match.pair(guess, ring.at(twoMen % DIGITS), theLaw());
+            match.pair(guess, theOther(twoMen), theLaw());
             match.goThrough(planA, planB);
             if (match.lead < 0) {
                 return knee;
@@ -316,7 +316,7 @@ public final class RingOfStraw {
         if (fault != FINE) {
             return fault;
         }
-        pairUp(twoMen / DIGITS, twoMen % DIGITS);
+        match.pair(theOne(twoMen), theOther(twoMen), theLaw());
         match.goThrough(planA, planB);
         return match.firstOtherwise(sheetAt(s));
     }
@@ -345,7 +345,7 @@ public final class RingOfStraw {
         if (t < 0 || t >= SECONDS) {
             return NOT_SO;
         }
-        pairUp(twoMen / DIGITS, twoMen % DIGITS);
+        match.pair(theOne(twoMen), theOther(twoMen), theLaw());
         int others = planA & ~(3 << 2 * t);
         int fitting = 0;
         for (int act = 0; act < ACTS; act++) {
@@ -382,7 +382,7 @@ public final class RingOfStraw {
         }
         int fitting = 0;
         for (int t = 0; t < textCount; t++) {
-            match.pair(ring.at(twoMen / DIGITS), ring.at(twoMen % DIGITS), textAt(t));
+            match.pair(theOne(twoMen), theOther(twoMen), textAt(t));
             match.goThrough(planA, planB);
             fitting |= match.firstOtherwise(sheetAt(s)) < 0 ? 1 << t : 0;
         }
@@ -421,7 +421,7 @@ public final class RingOfStraw {
         if (!arePlans(planA, planB)) {
             return NOT_SO;
         }
-        pairUp(twoMen / DIGITS, twoMen % DIGITS);
+        match.pair(theOne(twoMen), theOther(twoMen), theLaw());
         match.goThrough(planA, planB);
         sheetAt(s).becomesRow(BYTES, match.seconds);
         for (int i = 0; i < match.seconds; i++) {
@@ -635,7 +635,7 @@ public final class RingOfStraw {
 
     // ---- how it is done
 
-    /** The sheet of that number; the callers have looked at it, so that the first never stands in for another. */
+    /** The sheet of that number, which the callers have looked at: the first never stands in for another. */
     private Sheet sheetAt(int s) {
         return sheets[s >= 0 && s < sheets.length ? s : 0];
     }
@@ -646,6 +646,14 @@ public final class RingOfStraw {
 
     private Text theLaw() {
         return textAt(ring.law);
+    }
+
+    private Wrestler theOne(int twoMen) {
+        return ring.at(twoMen / DIGITS);
+    }
+
+    private Wrestler theOther(int twoMen) {
+        return ring.at(twoMen % DIGITS);
     }
 
     private void pairUp(int one, int other) {
@@ -722,9 +730,9 @@ public final class RingOfStraw {
 
     /** Whether the sheet tells the bout of one who is like the one, but for that; the one stays as he is. */
     private boolean wouldBeSo(int s, int twoMen, int planA, int planB, int what, int v) {
-        guess.becomesLike(ring.at(twoMen / DIGITS));
+        guess.becomesLike(theOne(twoMen));
         guess.becomes(what, v);
-        match.pair(guess, ring.at(twoMen % DIGITS), theLaw());
+        match.pair(guess, theOther(twoMen), theLaw());
         match.goThrough(planA, planB);
         return match.firstOtherwise(sheetAt(s)) < 0;
     }
@@ -903,7 +911,7 @@ public final class RingOfStraw {
 
     /** What the tape holds, and how it is read as a text: each part into steps, what is reckoned with first. */
     private static final class Reader {
-        static final int END = -1, WRONG = -2, NUMBER = 1;
+        static final int END = -1, WRONG = -2, ANOTHER = -1, NUMBER = 1;
         static final int NAME = 100, KEY = 106, OR = 109, AND = 110, NOT = 111;
         /** Names and keys, each behind the one whose token is 1 less. */
         static final String WORDS = "weight pace act his cell knee force stands ahead or and not ";
@@ -1064,74 +1072,66 @@ public final class RingOfStraw {
 
         /** Goes on to the next token; place is where it begins. */
         private void step() {
-            for (int i = next; i < size && isBlank(i); i++) {
+            for (int i = next; i < size && isBlank(byteAt(i)); i++) {
                 next = i + 1;
             }
             place = next;
+            int first = byteAt(place);
             if (place >= size) {
                 token = END;
-            } else if (isLetter(place)) {
+            } else if (isLetter(first)) {
                 stepOverWord();
-            } else if (isDigit(place)) {
+            } else if (isDigit(first)) {
                 stepOverNumber();
             } else {
                 next = place + 1;
-                token = SIGNS.indexOf((char) byteAt(place)) >= 0 ? byteAt(place) : WRONG;
+                token = SIGNS.indexOf((char) first) >= 0 ? first : WRONG;
             }
         }
 
         private void stepOverWord() {
-            for (int i = place; i < size && isLetter(i); i++) {
+            for (int i = place; i < size && isLetter(byteAt(i)); i++) {
                 next = i + 1;
             }
             token = WRONG;
-            int begin = 0;
             int word = NAME;
+            int alike = 0;
             for (int i = 0; i < WORDS.length(); i++) {
-                if (WORDS.charAt(i) == ' ') {
-                    token = stands(begin, i) ? word : token;
-                    begin = i + 1;
+                char letter = WORDS.charAt(i);
+                if (letter == ' ') {
+                    token = alike == next - place ? word : token;
                     word++;
+                    alike = 0;
+                } else {
+                    boolean isAlike = alike >= 0 && alike < next - place && byteAt(place + alike) == letter;
+                    alike = isAlike ? alike + 1 : ANOTHER;
                 }
             }
         }
 
         private void stepOverNumber() {
             number = 0;
-            for (int i = place; i < size && isDigit(i); i++) {
+            for (int i = place; i < size && isDigit(byteAt(i)); i++) {
                 number = 10 * number + byteAt(i) - '0';
                 next = i + 1;
             }
             token = next - place <= MOST_DIGITS ? NUMBER : WRONG;
         }
 
-        /** Whether what stands in WORDS from there to there is the word that has been stepped over. */
-        private boolean stands(int begin, int end) {
-            if (end - begin != next - place || end > WORDS.length()) {
-                return false;
-            }
-            for (int i = begin; i < end; i++) {
-                if (WORDS.charAt(i) != byteAt(place + i - begin)) {
-                    return false;
-                }
-            }
-            return true;
-        }
-
         private int byteAt(int i) {
             return i >= 0 && i < tape.length ? tape[i] : 0;
         }
 
-        private boolean isBlank(int i) {
-            return byteAt(i) == ' ' || byteAt(i) == '\n';
+        private static boolean isBlank(int b) {
+            return b == ' ' || b == '\n';
         }
 
-        private boolean isLetter(int i) {
-            return byteAt(i) >= 'a' && byteAt(i) <= 'z';
+        private static boolean isLetter(int b) {
+            return b >= 'a' && b <= 'z';
         }
 
-        private boolean isDigit(int i) {
-            return byteAt(i) >= '0' && byteAt(i) <= '9';
+        private static boolean isDigit(int b) {
+            return b >= '0' && b <= '9';
         }
     }
 
@@ -1183,7 +1183,7 @@ public final class RingOfStraw {
         }
 
         private static int turned(int step, int v) {
-            return step == Text.NEGATE ? -v : bit(v == 0);
+            return step == Text.NEGATE ? -v : v == 0 ? 1 : 0;
         }
 
         private static int joined(int token, int left, int right) {
@@ -1191,15 +1191,11 @@ public final class RingOfStraw {
                 case '+': return left + right;
                 case '-': return left - right;
                 case '*': return left * right;
-                case '<': return bit(left < right);
-                case '=': return bit(left == right);
-                case Reader.AND: return bit(left != 0 && right != 0);
-                default: return bit(left != 0 || right != 0);
+                case '<': return left < right ? 1 : 0;
+                case '=': return left == right ? 1 : 0;
+                case Reader.AND: return left != 0 && right != 0 ? 1 : 0;
+                default: return left != 0 || right != 0 ? 1 : 0;
             }
-        }
-
-        private static int bit(boolean isTrue) {
-            return isTrue ? 1 : 0;
         }
     }
 
@@ -1280,7 +1276,11 @@ public final class RingOfStraw {
             cells[0] = start;
             for (int t = 0; t < SECONDS; t++) {
                 if (cell > WEST_STRAW && cell < EAST_STRAW) {
-                    cell = behindSecond(cell, actIn(planA, t), actIn(planB, t));
+                    int act = actIn(planA, t);
+                    int his = actIn(planB, t);
+                    int ofWest = west.strength(act, his, cell);
+                    int ofEast = east.strength(his, act, EAST_STRAW - cell);
+                    cell = cellAtLast(cell + stepsFor(ofWest - ofEast));
                     seconds = t + 1;
                 }
                 cells[t + 1] = cell;
@@ -1288,17 +1288,20 @@ public final class RingOfStraw {
             lead = cell - MIDDLE;
         }
 
-        private int behindSecond(int cell, int act, int his) {
-            int stronger = west.strength(act, his, cell) - east.strength(his, act, EAST_STRAW - cell);
-            int steps = stronger == 0 ? 0 : Math.abs(stronger) > FAR ? 2 : 1;
-            int to = stronger < 0 ? cell - steps : cell + steps;
-            if (to >= EAST_STRAW) {
+        private static int stepsFor(int stronger) {
+            int steps = Math.abs(stronger) > FAR ? 2 : 1;
+            return stronger == 0 ? 0 : stronger < 0 ? -steps : steps;
+        }
+
+        /** Where they are when that cell has been reached, which may be a straw or behind it. */
+        private int cellAtLast(int reached) {
+            if (reached >= EAST_STRAW) {
                 return east.stands() ? EAST_STRAW - 1 : EAST_STRAW;
             }
-            if (to <= WEST_STRAW) {
+            if (reached <= WEST_STRAW) {
                 return west.stands() ? WEST_STRAW + 1 : WEST_STRAW;
             }
-            return to;
+            return reached;
         }
 
         int cellBehind(int second) {
