@@ -30,6 +30,10 @@ public final class BestTest {
         best(x, 10, P, 1, -1, -1);
         best(x, 10, P, 3, -1, -1);
         due("the one stays", x.told(0, 3), 0);
+        RingOfStraw w = ring("weight", 20, 10);
+        best(w, 1, H, 1, 0, 4);
+        best(w, 1, A, 1, 1, 4);
+        best(w, 1, A, 2, 5, 4);
         RingOfStraw y = ring("act", 0, 0);
         best(y, 1, Checks.plan("LLLLPPPPP"), 1, 3, 8);
         best(y, 1, Checks.plan("LLLHHHHHH"), 1, 3, 7);
@@ -138,6 +142,8 @@ public final class BestTest {
         due("beats(-1)", x.beats(-1, 0, 0), -5);
         due("beats, plan", x.beats(0, -1, 0), -7);
         due("beats, plan", x.beats(0, 0, 262144), -7);
+        RingOfStraw late = ring("act", 0, 0);
+        due("beats by one cell", late.beats(0, Checks.plan("LLLLLLLLH"), Checks.plan("LLLLLLLLP")), 2);
         // The one is the one of the west: his side alone is asked for by planA.
         RingOfStraw y = ring("act", 0, 0, 0);
         due("beats by pull", y.beats(1, L, H), 5);

@@ -306,6 +306,19 @@ public final class BoutTest {
         due("told(1, 0)", y.told(1, 0), 30);
     }
 
+    /** Who is one cell ahead behind the last second WINS, too. */
+    private static void byOneCell() {
+        RingOfStraw x = Checks.ringBy("force act ; stands 0 ; ahead 0 ;");
+        x.man(0, 0);
+        x.man(0, 0);
+        due("fight", x.fight(0, 1, Checks.plan("LLLLLLLLH"), Checks.plan("LLLLLLLLP")), 0);
+        tells(x, 0, 0, 1, 0);
+        tells(x, 1, 0, 0, 1);
+        due("fight", x.fight(0, 1, Checks.plan("LLLLLLLLP"), Checks.plan("LLLLLLLLH")), 1);
+        tells(x, 0, 0, 1, 1);
+        tells(x, 1, 0, 1, 1);
+    }
+
     private static void most() {
         RingOfStraw x = byWeight(0);
         x.man(0, 3000);
@@ -336,6 +349,7 @@ public final class BoutTest {
         refusalsOfBout();
         fight();
         knees();
+        byOneCell();
         most();
         Checks.end();
     }

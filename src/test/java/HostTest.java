@@ -37,6 +37,9 @@ public final class HostTest {
 
     /** A row that becomes one anew is all 0. */
     private static void anew() {
+        RingOfStraw all = new RingOfStraw();
+        all.sheet(3, 2, 12);
+        holds(all, 3, 0, 0, 0, 0, 0, 0);
         RingOfStraw x = new RingOfStraw();
         x.man(0, 9900);
         x.man(0, 0);

@@ -64,6 +64,10 @@ public final class TextTest {
         fault("force ^a" + REST);
         fault("force ^notweight" + REST);
         fault("force not5^x" + REST);
+        fault("force not ^nott 1" + REST);
+        fault("^forcez 1" + REST);
+        fault("^zforce 1" + REST);
+        fault("^aforce 1" + REST);
         fault("force ^12345" + REST);
         fault("force ^00001" + REST);
         fault("force 1 + ^123456789012345678901234567890" + REST);
@@ -108,6 +112,13 @@ public final class TextTest {
         fault("force - ^;");
         fault("force 1 or ^or 1" + REST);
         fault("force 1 and ^or 1" + REST);
+        fault("force not ^or 1" + REST);
+        fault("force 1 < ^or 1" + REST);
+        fault("force 1 + ^or 1" + REST);
+        fault("force 1 * ^or 1" + REST);
+        fault("force - ^or 1" + REST);
+        fault("force ( ^or 1 )" + REST);
+        fault("force ( 1 ^force" + REST);
     }
 
     private static void faultsOfDepth() {
@@ -161,6 +172,10 @@ public final class TextTest {
     private static void behindAFault() {
         RingOfStraw x = new RingOfStraw();
         due("a fault late", Checks.read(x, "force 5 + 6 + 7 ; stands 3 ; ahead 1 ; #"), -139);
+        for (int i = 0; i < 5; i++) {
+            String late = "force 1" + "+1*1".repeat(30) + " ; stands 1 ; ahead ;";
+            due("a fault later", Checks.read(x, late), -100 - late.lastIndexOf(';'));
+        }
         due("a text", Checks.read(x, "force 1 ; stands 0 ; ahead 0 ;"), 1);
         x.force(1);
         x.man(0, 0);
