@@ -1,5 +1,6 @@
 /** Counts the answers that are not as due, and tells them. */
 final class Checks {
+    private static final int MOST_TOLD = 60;
     private static int asked = 0;
     private static int wrong = 0;
 
@@ -10,7 +11,9 @@ final class Checks {
         asked++;
         if (got != want) {
             wrong++;
-            System.out.println(call + " answered " + got + ", due is " + want);
+            if (wrong <= MOST_TOLD) {
+                System.out.println(call + " answered " + got + ", due is " + want);
+            }
         }
     }
 
@@ -28,9 +31,14 @@ final class Checks {
     }
 
     static void feed(RingOfStraw ring, String text) {
-        for (int i = 0; i < text.length(); i++) {
-            ring.feed(1, text.charAt(i), 0, 0, 0, 0);
+        for (int i = 0; i < text.length(); i += 5) {
+            int n = Math.min(5, text.length() - i);
+            ring.feed(n, at(text, i), at(text, i + 1), at(text, i + 2), at(text, i + 3), at(text, i + 4));
         }
+    }
+
+    private static int at(String text, int i) {
+        return i < text.length() ? text.charAt(i) : 0;
     }
 
     /** What text() answers to that text, which must fit on the tape. */
