@@ -101,6 +101,13 @@ final class EdgesOfBest {
         due("fight", x.fight(1, 0, H, L), 0);
         Rings.knee(x, 0, 0, 2, 0);
         Rings.knee(x, 1, 2, 0, 2);
+        RingOfStraw late = Rings.by("act", 0, 0);
+        due("by one cell behind the last second", late.fight(0, 1, Checks.plan("PPPPPPPPH"), P), 0);
+        Rings.knee(late, 0, 0, 1, 0);
+        Rings.knee(late, 1, 0, 0, 1);
+        due("by one cell behind the last second", late.fight(0, 1, P, Checks.plan("PPPPPPPPH")), 1);
+        Rings.knee(late, 0, 0, 1, 1);
+        Rings.knee(late, 1, 0, 1, 1);
         Edge.of(11, "who WINS (-1: nobody; then nothing is otherwise): ");
         due("nobody", x.fight(0, 1, P, P), -1);
         due("nobody", x.fight(1, 0, P, P), -1);
@@ -341,6 +348,9 @@ final class EdgesOfBest {
         due("it stays", x.told(0, 2), 9);
         x.put(1, 2, 2);
         due("the other one's knee counts", x.knees(1, P, P), 8);
+        RingOfStraw late = Rings.by("act", 0, 0);
+        due("by one cell behind the last second", late.knees(1, Checks.plan("PPPPPPPPL"), Checks.plan("PPPPPPPPH")), 3);
+        due("by one cell behind the last second", late.knees(1, Checks.plan("PPPPPPPPH"), Checks.plan("PPPPPPPPL")), 0);
         Edge.of(15, "-1: none. ");
         x.put(1, 2, 0);
         x.put(1, 0, 1);
@@ -368,6 +378,9 @@ final class EdgesOfBest {
         due("of 10 by aside of a push: 20 against all", x.beats(0, A, P), 30);
         due("of 10 by a push against aside", x.beats(0, P, A), 16);
         due("of a single one", Rings.by("1", 5).beats(0, P, P), 0);
+        RingOfStraw late = Rings.by("act", 0, 0, 0);
+        due("by one cell behind the last second", late.beats(1, Checks.plan("PPPPPPPPH"), P), 5);
+        due("who loses by one cell", late.beats(1, P, Checks.plan("PPPPPPPPH")), 0);
         Edge.of(16, "-5: no such WRESTLER; ");
         for (int m : new int[] {-1, 6, 7, Integer.MIN_VALUE, Integer.MAX_VALUE}) {
             due("beats(" + m + ", ..)", x.beats(m, 0, 0), -5);

@@ -189,6 +189,9 @@ final class EdgesOfHost {
         x.man(11, 1111);
         x.man(22, 2222);
         due("count(0)", x.count(0), 4);
+        due("one wins", x.fight(2, 3, P, P), 2);
+        due("one loses", x.fight(0, 2, P, P), 0);
+        Rings.knee(x, 2, 1, 1, 1);
         due("back()", x.back(), 2);
         due("told(2, 0)", x.told(2, 0), -5);
         due("taken(2, 0)", x.taken(2, 0), -11);

@@ -338,6 +338,9 @@ final class EdgesOfTerms {
         Rings.fault("force 1 ; stands 1 ; ^force 1 ;");
         Rings.fault("force 1 ; stands 1 ; ahead 1 ; ^force 1 ;");
         Rings.fault("force 1 ; stands 1 ; ahead 1 ; ^;");
+        Rings.fault("force 1 ; stands 1 ; ahead 1 ; ^5");
+        Rings.fault("force 1 ; stands 1 ; ahead 1 ; ^weight");
+        Rings.fault("force 1 ; stands 1 ; ahead 1 ; ^(");
         Rings.fault("force ^; stands 1 ; ahead 1 ;");
         Rings.fault("force 1 ^stands 1 ; ahead 1 ;");
         Rings.fault("^1 ; stands 1 ; ahead 1 ;");
@@ -397,7 +400,8 @@ final class EdgesOfTerms {
         Rings.says("his", 1);
         Rings.says("cell", 5);
         Rings.says("knee", 3);
-        for (String other : new String[] {"more", "wins", "losses", "kind", "weigh", "weights", "a", "acts", "kneel"}) {
+        for (String other : new String[] {"more", "wins", "losses", "kind", "weigh", "weights", "xeight", "weixht",
+            "weighx", "ight", "a", "acts", "ac", "ct", "acx", "xnee", "kneel", "hiss", "is", "celll", "ell", "ace", "pac"}) {
             Rings.faultOfE("^" + other);
         }
     }
@@ -477,9 +481,21 @@ final class EdgesOfTerms {
         Rings.fault("^nobody");
         Rings.fault("^forced 1" + REST);
         Rings.fault("^forc 1" + REST);
+        Rings.fault("^xorce 1" + REST);
+        Rings.fault("^forcx 1" + REST);
         Rings.faultOfE("^nobody");
         Rings.faultOfE("1 ^nobody");
+        Rings.faultOfE("not ^nobody 1");
+        Rings.faultOfE("- ^nobody 1");
+        Rings.faultOfE("((1) ^nobody");
+        Rings.faultOfE("1 * ^nobody");
         Rings.faultOfE("1 ^ors 1");
+        Rings.faultOfE("1 ^xr 1");
+        Rings.faultOfE("1 ^o 1");
+        Rings.faultOfE("1 ^an 1");
+        Rings.faultOfE("1 ^xnd 1");
+        Rings.faultOfE("^no 1");
+        Rings.faultOfE("^xot 1");
         Rings.fault("force 1 ; stands 1 ; ahead 1 ; ^nobody");
         of("a NUMBER that is too long, ");
         Rings.fault("^12345");

@@ -185,13 +185,23 @@ final class EdgesOfWrestlers {
         due("empty then", x.count(4), 0);
         due("texts", x.count(2), 3);
         due("the law stays", x.count(3), 0);
+        String late = "force 1" + "+1*1".repeat(31) + " ; stands 1 ; ahead ;";
+        for (int i = 0; i < 9; i++) {
+            due("a late fault", Checks.read(x, late), -100 - late.length() + 1);
+        }
+        due("a text behind faults", Checks.read(x, "force 8 ; stands 4 ; ahead 0 - 1 ;"), 3);
+        x.force(3);
+        x.man(0, 0);
+        due("its force", x.asks(0, 0, 0, 0), 8);
+        due("its stands", x.asks(1, 0, 0, 0), 4);
+        due("its ahead", x.asks(2, 0, 0, 0), -1);
         Edge.of(4, "-100 less the place of its FAULT. ");
         due("place 0", Checks.read(x, "#"), -100);
         due("place 1", Checks.read(x, " #"), -101);
         due("place 159", Checks.read(x, " ".repeat(159) + "#"), -259);
         due("place 160", Checks.read(x, " ".repeat(160)), -260);
-        due("texts", x.count(2), 3);
-        due("the next number", Checks.read(x, "force 3" + REST), 3);
+        due("texts", x.count(2), 4);
+        due("the next number", Checks.read(x, "force 3" + REST), 4);
     }
 
     private static void textFull() {

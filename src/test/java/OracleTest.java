@@ -5,7 +5,9 @@ import java.util.Random;
  * document written another way (Oracle). The seeds are fixed, so every run of the test is the same.
  */
 public final class OracleTest {
+    /** Behind so many calls of a run its state is asked for at last. */
     private static final int CALLS = 400;
+    private static final int MOST_CALLS = 512;
     private static final int[] WILD = {
         -1, -2, 10, 11, 40, 41, 99, 100, 160, 255, 256, 512, 999, 1000, 9999, 10000, 65535, 65536, 99999, 100000,
         262143, 262144, Integer.MAX_VALUE, Integer.MAX_VALUE - 1, Integer.MIN_VALUE, Integer.MIN_VALUE + 1
@@ -14,6 +16,7 @@ public final class OracleTest {
     private final Random random;
     private RingOfStraw ring = new RingOfStraw();
     private Oracle oracle = new Oracle();
+    private int calls = 0;
     private int wrong = 0;
     private final StringBuilder told = new StringBuilder();
 
@@ -96,6 +99,7 @@ public final class OracleTest {
     }
 
     private void compare(String call, long got, long want) {
+        calls++;
         told.append(call).append(" -> ").append(got).append('\n');
         if (got != want) {
             wrong++;
@@ -312,18 +316,24 @@ public final class OracleTest {
         for (int i = 0; i < men; i++) {
             all(4);
         }
-        for (int i = 0; i < CALLS && wrong == 0; i++) {
+        int next = CALLS / 2;
+        while (calls < CALLS && wrong == 0) {
             all(random.nextInt(35));
-            if (i % 50 == 0) {
+            if (calls >= next) {
                 state();
+                next += CALLS;
             }
         }
         state();
+        if (calls > MOST_CALLS) {
+            System.out.println("an object was used for " + calls + " calls");
+            wrong++;
+        }
         return wrong;
     }
 
     public static void main(String[] args) {
-        int runs = args.length > 0 ? Integer.parseInt(args[0]) : 400;
+        int runs = args.length > 0 ? Integer.parseInt(args[0]) : 800;
         int bad = 0;
         for (int seed = 0; seed < runs && bad < 3; seed++) {
             OracleTest test = new OracleTest(seed);
