@@ -112,8 +112,14 @@ final class EdgesOfBouts {
     }
 
     private static void moreOrLess() {
-        of("If the one's is more than the other one's, the CELL is 1 further, by more than 20 2 further; ",
-            "if it is less, 1 less, by more than 20 2 less. ");
+        of("If the one's is more than the other one's, the CELL is 1 further, by more than 20 2 further; ");
+        moreOrLess(1, 1);
+        of("if it is less, 1 less, by more than 20 2 less. ");
+        moreOrLess(10, -1);
+    }
+
+    /** Of 0 and 1 wrestler 0 is as much stronger as is told, or not. */
+    private static void moreOrLess(int twoMen, int sign) {
         RingOfStraw x = Rings.by("weight", 0, 0);
         int[][] further = {{0, 0}, {1, 1}, {2, 1}, {19, 1}, {20, 1}, {21, 2}, {22, 2}, {41, 2}, {99, 2}};
         for (int[] by : further) {
@@ -121,16 +127,13 @@ final class EdgesOfBouts {
                 int heavier = Math.min(99, weight + by[0]);
                 x.put(1, 0, heavier - by[0]);
                 x.put(0, 0, heavier);
-                due("by " + by[0] + " more", x.bout(1, 0, 0, 11), 4 + by[1]);
-                due("by " + by[0] + " less", x.bout(10, 0, 0, 11), 4 - by[1]);
+                due("by " + by[0], x.bout(twoMen, 0, 0, 11), 4 + sign * by[1]);
             }
         }
     }
 
     private static void strawOfTheEast() {
-        of("If the CELL is 8 or more then: if the other one has STOOD at the straw in fewer seconds than that one STANDS ",
-            "(0 .. 9, else the bound; told ahead of the BOUT), that one does once more, and they are in CELL 7; ",
-            "else they are in CELL 8, the one WINS, it is over. ");
+        of("If the CELL is 8 or more then: if the other one has STOOD at the straw in fewer seconds than that one STANDS ");
         int[][] bySteps = {{4, 5, 6, 7, 8}, {4, 5, 6, 7, 7, 8}, {4, 5, 6, 7, 7, 7, 8}};
         int[][] byTwo = {{4, 6, 8}, {4, 6, 7, 8}, {4, 6, 7, 7, 8}};
         for (int stands = 0; stands < 3; stands++) {
@@ -140,6 +143,7 @@ final class EdgesOfBouts {
             Rings.cells(x, 1, "P", "P", byTwo[stands]);
             Rings.winner(x, 1, "P", "P", 0);
         }
+        of("(0 .. 9, else the bound; told ahead of the BOUT), that one does once more, and they are in CELL 7; ");
         RingOfStraw most = Rings.of("force weight ; stands 5 ; ahead 0 ;", 30, 0);
         Rings.cells(most, 1, "P", "P", 4, 6, 7, 7, 7, 7, 7, 8);
         // A tree stands 5 and 1 and 9, else the bound: all nine seconds.
@@ -147,6 +151,10 @@ final class EdgesOfBouts {
         tree.man(49, 0);
         Rings.cells(tree, 1, "P", "P", 7, 7, 7, 7, 7, 7, 7, 7, 7, 7);
         Rings.winner(tree, 1, "P", "P", 0);
+        of("else they are in CELL 8, the one WINS, it is over. ");
+        RingOfStraw none = Rings.by("weight", 30, 0);
+        Rings.cells(none, 1, "PPAAAAAAA", "P", 4, 6, 8);
+        Rings.winner(none, 1, "PPAAAAAAA", "P", 0);
         // One who comes back to the straw has stood there before.
         RingOfStraw again = Rings.of("force act * 10 ; stands 1 ; ahead 0 ;", 0, 0);
         Rings.cells(again, 1, "LLPLLLLLL", "PPLPPPPPP", 4, 6, 7, 5, 7, 8);
@@ -228,22 +236,30 @@ final class EdgesOfBouts {
     }
 
     private static void lots() {
-        of("PLANS by a SEED (0 .. 99999): ", "LOT modulo 262144 is the one's PLAN, the next LOT's the other one's. ",
-            "LOTS: the first is (SEED and 1) times 48271 modulo 2147483647, each further one the last times 48271 modulo 2147483647. ");
-        // Behind 44487 the product is above 2147483647 for the first time.
-        int[][] lots = {
-            {0, 48271, 153570}, {1, 96542, 44996}, {5, 27482, 134988}, {7, 124024, 179984}, {44487, 258744, 29014},
-            {44488, 44872, 182585}, {44489, 93143, 74011}, {99999, 242530, 88695}
-        };
+        of("PLANS by a SEED (0 .. 99999): ");
         RingOfStraw x = Rings.of("force act ; stands 1 ; ahead 0 ;", 0, 0);
-        for (int[] lot : lots) {
-            for (int what = 0; what < 2; what++) {
-                due("drawn " + lot[0], x.drawn(lot[0], 0, 1, what), x.bout(1, lot[1], lot[2], what));
-                due("drawn " + lot[0], x.drawn(lot[0], 1, 0, what), x.bout(10, lot[1], lot[2], what));
-            }
-        }
         due("SEED -1", x.drawn(-1, 0, 1, 0), -7);
+        byLots(x, 0, 48271, 153570);
+        byLots(x, 99999, 242530, 88695);
         due("SEED 100000", x.drawn(100000, 0, 1, 0), -7);
+        of("LOT modulo 262144 is the one's PLAN, the next LOT's the other one's. ");
+        // The first lots: 96542, 289626.
+        byLots(x, 1, 96542, 44996);
+        byLots(x, 5, 27482, 134988);
+        of("LOTS: the first is (SEED and 1) times 48271 modulo 2147483647, ");
+        // Behind 44487 the product is above 2147483647 for the first time.
+        byLots(x, 44487, 258744, 29014);
+        byLots(x, 44488, 44872, 182585);
+        byLots(x, 44489, 93143, 74011);
+        of("each further one the last times 48271 modulo 2147483647. ");
+        byLots(x, 7, 124024, 179984);
+    }
+
+    private static void byLots(RingOfStraw x, int seed, int planA, int planB) {
+        for (int what = 0; what < 2; what++) {
+            due("drawn " + seed, x.drawn(seed, 0, 1, what), x.bout(1, planA, planB, what));
+            due("drawn " + seed, x.drawn(seed, 1, 0, what), x.bout(10, planA, planB, what));
+        }
     }
 
     private static void image() {

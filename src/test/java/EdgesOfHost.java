@@ -566,12 +566,18 @@ final class EdgesOfHost {
     // ---- promise 34
 
     private static void taken() {
-        Edge.of(34, "What lies at place i: 0 .. 5 WRESTLERS, 6 .. 11 what they have won, taken for ",
-            "0 .. 5 a WRESTLER of that KIND (also of one that is one): the number; ");
+        Edge.of(34, "What lies at place i: 0 .. 5 WRESTLERS, 6 .. 11 what they have won, taken for ");
         RingOfStraw x = new RingOfStraw();
         for (int kind = 0; kind < 6; kind++) {
             x.man(10 * kind, 0);
         }
+        for (int m = 0; m < 6; m++) {
+            due("a wrestler", x.taken(m, 0), m);
+            due("no wrestler", x.taken(m + 6, 0), -13);
+            due("what one has won", x.taken(m + 6, 6), 0);
+            due("not what one has won", x.taken(m, 6), -13);
+        }
+        Edge.of(34, "0 .. 5 a WRESTLER of that KIND (also of one that is one): the number; ");
         boolean[][] is = {
             {true, false, false, false, false, false}, {true, true, false, false, false, false},
             {true, false, true, false, false, false}, {true, true, false, true, false, false},

@@ -159,7 +159,7 @@ final class EdgesOfTerms {
             due("the holder's act " + act, x.bout(12, Rings.ALWAYS[act], Rings.L, 11), holder[act]);
         }
         due("aside of a push", x.bout(20, Rings.A, Rings.P, 11), 5);
-        of("A PLAN (0 .. 262143): ", "bits 2 t and 2 t + 1 are the ACT in second t (0 .. 8). ");
+        of("bits 2 t and 2 t + 1 are the ACT in second t (0 .. 8). ");
         RingOfStraw y = Rings.by("act", 0, 0);
         for (int t = 0; t < 9; t++) {
             for (int act = 1; act < 4; act++) {
@@ -168,7 +168,9 @@ final class EdgesOfTerms {
                 }
             }
         }
+        of("A PLAN (0 .. 262143): ");
         due("the greatest plan", y.bout(1, 262143, 262143, 0), -1);
+        due("against the least one", y.bout(1, 262143, 0, 0), 0);
         due("a plan above", y.bout(1, 262144, 0, 0), -7);
         due("a plan below", y.bout(1, 0, -1, 0), -7);
     }
@@ -177,8 +179,12 @@ final class EdgesOfTerms {
 
     private static void wrestler() {
         of("KINDS: how much one FORCES, the text saying so much, by one's ACT and the other one's; ",
-            "how many seconds one STANDS at the straw, the text saying so many; how far one STARTS ahead, the text saying so far. ",
-            "0 WRESTLER: aside: twice that, if the other one pushes, else 0; else that; that; that. ");
+            "how many seconds one STANDS at the straw, the text saying so many; how far one STARTS ahead, the text saying so far. ");
+        Rings.forces(0, 99, Rings.PUSH, Rings.PUSH, 99);
+        Rings.forces(0, 0, Rings.PUSH, Rings.PUSH, 0);
+        Rings.stands(0, 4, 4);
+        Rings.starts(0, -2, -2);
+        of("0 WRESTLER: aside: twice that, if the other one pushes, else 0; else that; that; that. ");
         Rings.forces(9, 40, Rings.ASIDE, Rings.PUSH, 80);
         Rings.forces(9, 40, Rings.ASIDE, Rings.HOLD, 0);
         Rings.forces(9, 40, Rings.ASIDE, Rings.ASIDE, 0);
@@ -596,8 +602,7 @@ final class EdgesOfTerms {
     }
 
     private static void names() {
-        of("of a WRESTLER: weight: WEIGHT; pace: PACE; act: one's ACT; his: the other one's; ",
-            "cell: where they are, from one's own straw on; knee: KNEE. ");
+        of("of a WRESTLER: weight: WEIGHT; pace: PACE; act: one's ACT; his: the other one's; ");
         RingOfStraw x = Rings.by("weight", 2, 1);
         Rings.cells(x, 1, "P", "P", 4, 5, 6, 7, 8);
         RingOfStraw pace = Rings.by("pace", 0, 0);
@@ -607,6 +612,7 @@ final class EdgesOfTerms {
         Rings.cells(act, 1, "H", "P", 4, 5, 6, 7, 8);
         RingOfStraw his = Rings.by("his", 0, 0);
         Rings.cells(his, 1, "H", "P", 4, 3, 2, 1, 0);
+        of("cell: where they are, from one's own straw on; knee: KNEE. ");
         // 3 * 5 against 5 * 5 in the cells of each.
         RingOfStraw cell = Rings.of("force cell * 5 ; stands 0 ; ahead weight - 1 ;", 0, 1);
         Rings.cells(cell, 1, "P", "P", 3, 2, 1, 0);

@@ -30,25 +30,45 @@ final class EdgesOfTold {
         int by(int s, int twoMen, int planA, int planB);
     }
 
-    /** BAD, -11, BAD, -5 of an object with two wrestlers, each ahead of all behind it. */
-    private static void refused(RingOfStraw x, Asked asked) {
-        x.sheet(3, -1, 0);
+    // Each is tried ahead of all behind it, and sheet 3 is the one that is asked for.
+
+    private static void noSheet(Asked asked) {
         for (int s : new int[] {-1, 4, 5, Integer.MIN_VALUE, Integer.MAX_VALUE}) {
             due("sheet " + s, asked.by(s, 1, 0, 0), -2);
             due("sheet " + s + " ahead of -5, -7", asked.by(s, 0, -1, -1), -2);
         }
+    }
+
+    private static void missing(RingOfStraw x, Asked asked) {
+        x.sheet(3, -1, 0);
         due("missing", asked.by(3, 1, 0, 0), -11);
         due("missing ahead of -5, -7", asked.by(3, 0, -1, -1), -11);
+    }
+
+    private static void moreThanNine(RingOfStraw x, Asked asked) {
         for (int size = 10; size <= 40; size += 30) {
             x.sheet(3, 2, size);
             due("of " + size, asked.by(3, 1, 0, 0), -2);
             due("of " + size + " ahead of -5, -7", asked.by(3, 0, -1, -1), -2);
         }
         x.sheet(3, 2, 9);
+        due("of nine isn't refused", asked.by(3, 1, 0, 0) >= -1 ? 1 : 0, 1);
+    }
+
+    private static void noTwo(RingOfStraw x, Asked asked) {
+        x.sheet(3, 2, 9);
         for (int two : new int[] {0, 11, 2, 20, 12, 55, 56, -1, -10, Integer.MIN_VALUE, Integer.MAX_VALUE}) {
             due("twoMen " + two, asked.by(3, two, 0, 0), -5);
             due("twoMen " + two + " ahead of -7", asked.by(3, two, -1, 262144), -5);
         }
+    }
+
+    /** BAD, -11, BAD, -5 of an object with two wrestlers. */
+    private static void refused(RingOfStraw x, Asked asked) {
+        noSheet(asked);
+        missing(x, asked);
+        moreThanNine(x, asked);
+        noTwo(x, asked);
     }
 
     private static void noPlans(Asked asked) {
@@ -108,8 +128,14 @@ final class EdgesOfTold {
 
     private static void judgeRefused() {
         RingOfStraw x = Rings.by("weight", 10, 0);
-        Edge.of(19, "BAD: SHEET; ", "-11; ", "BAD: it tells more than 9; ", "-5: no such two; ");
-        refused(x, (s, two, a, b) -> x.judge(s, two, a, b));
+        Edge.of(19, "BAD: SHEET; ");
+        noSheet((s, two, a, b) -> x.judge(s, two, a, b));
+        Edge.of(19, "-11; ");
+        missing(x, (s, two, a, b) -> x.judge(s, two, a, b));
+        Edge.of(19, "BAD: it tells more than 9; ");
+        moreThanNine(x, (s, two, a, b) -> x.judge(s, two, a, b));
+        Edge.of(19, "-5: no such two; ");
+        noTwo(x, (s, two, a, b) -> x.judge(s, two, a, b));
         Edge.of(19, "-7: a PLAN.");
         noPlans((s, two, a, b) -> x.judge(s, two, a, b));
     }
