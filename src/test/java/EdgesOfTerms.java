@@ -460,6 +460,11 @@ final class EdgesOfTerms {
         Rings.fault("^) force 1" + REST);
         Rings.fault(" \n ^) force 1" + REST);
         Rings.faultOfE("1   ^stands");
+        for (String key : new String[] {"force", "stands", "ahead", "or", "and"}) {
+            Rings.faultOfE("^" + key);
+            Rings.faultOfE("1 + ^" + key);
+            Rings.faultOfE("(^" + key + ")");
+        }
         Rings.faultOfE("1 ^2 # 12345 nobody");
         Rings.faultOfE("^) # 12345 nobody");
         String last = "force 1 ; stands 2 ; ahead 1 ;" + " ".repeat(129);

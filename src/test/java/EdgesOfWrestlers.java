@@ -181,6 +181,10 @@ final class EdgesOfWrestlers {
         due("an empty tape", x.text(), -100);
         due("a fault", Checks.read(x, "force 1 # " + REST), -108);
         due("empty then", x.count(4), 0);
+        due("a fault", Checks.read(x, "force weight 1234"), -113);
+        due("no letter of that one", Checks.read(x, "force weigh"), -106);
+        due("a fault", Checks.read(x, "force 1234"), -110);
+        due("no digit of that one", Checks.read(x, "force 123"), -109);
         due("a text", Checks.read(x, "force 2" + REST), 2);
         due("empty then", x.count(4), 0);
         due("texts", x.count(2), 3);

@@ -121,6 +121,44 @@ public final class TextTest {
         fault("force ( 1 ^force" + REST);
     }
 
+    /** Tokens that may come next, a blank between any two; all others are faults where they begin. */
+    private static void eachTokenBehindEach() {
+        String[] tokens = ("weight pace act his cell knee force stands ahead or and not 0 9999 00000 12345 "
+            + "( ) ; + - * < = weights x z # > A \t \r \u0000 \u00ff").split(" ");
+        String one = "weight pace act his cell knee 0 9999 ( -";
+        String phrase = one + " not";
+        String sum = "or and + - *";
+        nextTokens(tokens, "", "force");
+        for (String begun : new String[] {"force", "force 1 ; stands", "force 1 ; stands 1 ; ahead", "force (", "force not",
+            "force 1 or", "force 1 and", "force not not", "force ( (", "force ( 1 < 2 or", "force weight + 1 and"}) {
+            nextTokens(tokens, begun, phrase);
+        }
+        for (String begun : new String[] {"force -", "force 1 +", "force 1 -", "force 1 *", "force 1 <", "force 1 =",
+            "force - -", "force not -", "force ( 1 +", "force 1 < 2 *", "force 1 = 2 -"}) {
+            nextTokens(tokens, begun, one);
+        }
+        for (String begun : new String[] {"force 1", "force knee", "force - 1", "force not 1", "force 1 * 2", "force ( 1 )",
+            "force 1 < 2 or 3", "force 1 = 2 and 3", "force ( 1 < 2 )", "force 1 ; stands 1 ; ahead 1"}) {
+            nextTokens(tokens, begun, sum + " < = ;");
+        }
+        nextTokens(tokens, "force 1 < 2", sum + " ;");
+        nextTokens(tokens, "force not 1 = 2", sum + " ;");
+        nextTokens(tokens, "force ( 1", sum + " < = )");
+        nextTokens(tokens, "force ( 1 = 2", sum + " )");
+        nextTokens(tokens, "force 1 ;", "stands");
+        nextTokens(tokens, "force 1 ; stands 1 ;", "ahead");
+        nextTokens(tokens, "force 1 ; stands 1 ; ahead 1 ;", "");
+    }
+
+    private static void nextTokens(String[] tokens, String begun, String may) {
+        for (String token : tokens) {
+            String text = begun + " " + token;
+            boolean isText = begun.endsWith("ahead 1") && token.equals(";");
+            boolean mayStand = (" " + may + " ").contains(" " + token + " ");
+            due(text, read(text), isText ? 1 : -100 - (mayStand ? text.length() : begun.length() + 1));
+        }
+    }
+
     private static void faultsOfDepth() {
         stands("force (((((1)))))" + REST);
         fault("force (((((^(1))))))" + REST);
@@ -165,6 +203,24 @@ public final class TextTest {
         for (int t = 0; t <= 5; t++) {
             due("force " + t, x.force(t), Math.max(0, t - 1));
             due("asks by text " + t, x.asks(0, 0, 0, 0), t);
+        }
+    }
+
+    /** The tape is empty behind a text: its bytes don't go on behind those of a shorter one. */
+    private static void behindALongerText() {
+        String longer = "force weight * 1234 + not knee ; stands 99 ; ahead act ; )";
+        for (int size = 0; size < longer.length(); size++) {
+            String shorter = longer.substring(0, size);
+            RingOfStraw x = new RingOfStraw();
+            due(longer, Checks.read(x, longer), -100 - longer.indexOf("not"));
+            due("behind it: " + shorter, Checks.read(x, shorter), read(shorter));
+        }
+        for (String[] pair : new String[][] {{"force weight", "force ^weigh"}, {"force 1234", "force 123^"},
+            {"force 12345", "force 1234^"}, {"force 1 or 2", "force 1 ^o"}, {"forced", "force^"}, {"zforce", "^zforc"},
+            {"force 1 ; stands 1 ; ahead 1 ;", "force 1 ; stands 1 ; ahead 1 ^"}, {"##", "^#"}, {"force ;", "force ^"}}) {
+            RingOfStraw x = new RingOfStraw();
+            Checks.read(x, pair[0]);
+            due(pair[1] + " behind " + pair[0], Checks.read(x, pair[1].replace("^", "")), -100 - pair[1].indexOf('^'));
         }
     }
 
@@ -325,8 +381,10 @@ public final class TextTest {
         faults();
         faultsOfTokens();
         faultsOfPhrases();
+        eachTokenBehindEach();
         faultsOfDepth();
         whatTextAnswers();
+        behindALongerText();
         behindAFault();
         phrases();
         truths();
